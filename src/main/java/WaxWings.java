@@ -158,7 +158,7 @@ public final class WaxWings {
     }
 
     public int air(int column, int height) {
-        if (!air.isInside(column, height)) return BAD;
+        if (column < 0 || column >= air.columns || height < 0 || height >= air.heights) return BAD;
         return air.look(column, height);
     }
 
@@ -758,7 +758,7 @@ public final class WaxWings {
         }
 
         int get(int i) {
-            return has(i) ? places[i] : 0;
+            return i >= 0 && i < size && i < places.length ? places[i] : 0;
         }
 
         void set(int i, int v) {
@@ -792,17 +792,11 @@ public final class WaxWings {
         private int columns;
         private int heights;
 
-        boolean isInside(int column, int height) {
-            return column >= 0 && column < columns && height >= 0 && height < heights;
-        }
-
+        /** What a cell holds; where there is none it is as closed as a ROCK. */
         int look(int column, int height) {
+            if (column < 0 || column >= columns || height < 0 || height >= heights) return ROCK;
             int cell = height * COLUMNS + column;
-            return isInside(column, height) && cell < cells.length ? cells[cell] : ROCK;
-        }
-
-        boolean isOpen(int column, int height) {
-            return look(column, height) != ROCK;
+            return cell < cells.length ? cells[cell] : ROCK;
         }
 
         void fill(int column, int height, int sign) {
@@ -1039,7 +1033,7 @@ public final class WaxWings {
             if (strength < 0) return false;
             place++;
             int height = figureBelow(air.heights);
-            if (height < 0 || !air.isOpen(0, height)) return false;
+            if (height < 0 || air.look(0, height) == ROCK) return false;
             place++;
             if (i >= 0 && i < FLYERS) sky.birds[i].begin(kind, wax, strength, height);
             return true;
@@ -1093,8 +1087,8 @@ public final class WaxWings {
 
         int cost(int beat) {
             int cost = beat == UP ? 2 + letters : beat == LEVEL ? 1 : 0;
-            if (isOfKind(kind, OLD)) cost = beat == UP ? cost + 1 : 0;
-            if (isOfKind(kind, LADEN) && beat == LEVEL) cost += letters;
+            if (kind == OLD || kind == NIGHT) cost = beat == UP ? cost + 1 : 0;
+            if ((kind == LADEN || kind == ABREAST) && beat == LEVEL) cost += letters;
             return kind == ABREAST ? Math.max(0, cost - 1) : cost;
         }
 
@@ -1111,7 +1105,7 @@ public final class WaxWings {
             int cell = air.look(from.column, from.height);
             int height = from.height + beat - LEVEL;
             int column = Math.min(from.column + (cell == WIND ? 2 : 1), air.columns - 1);
-            if (!air.isOpen(column, height)) return false;
+            if (air.look(column, height) == ROCK) return false;
             to.take(from);
             to.column = column;
             to.height = height;
@@ -1120,7 +1114,7 @@ public final class WaxWings {
         }
 
         boolean canSink(Spot spot) {
-            return air.isOpen(spot.column, spot.height - 1);
+            return air.look(spot.column, spot.height - 1) != ROCK;
         }
 
         /** HEAT and CLOG where one came to, and whether one falls by it. */
@@ -1173,21 +1167,15 @@ public final class WaxWings {
             for (int n = 0; n < TRIES && depth >= 0; n++) {
                 if (depth >= WAY_SIZE || beats[depth] >= UP || flight.isOver(trail[depth])) {
                     depth--;
-                } else if (goOn()) {
-                    return true;
+                    continue;
                 }
+                beats[depth]++;
+                if (flight.fly(trail[depth], beats[depth], trail[depth + 1]) != 0) continue;
+                depth++;
+                beats[depth] = DOWN - 1;
+                if (flight.isOver(trail[depth])) return true;
             }
             return false;
-        }
-
-        /** Tries the next BEAT from the trail's end; true: one is OVER by it. */
-        private boolean goOn() {
-            if (depth < 0 || depth >= WAY_SIZE) return false;
-            beats[depth]++;
-            if (flight.fly(trail[depth], beats[depth], trail[depth + 1]) != 0) return false;
-            depth++;
-            beats[depth] = DOWN - 1;
-            return flight.isOver(trail[depth]);
         }
 
         int size() {
