@@ -36,7 +36,7 @@ public final class WaxWings {
     private final Reader reader = new Reader();
     private final Spot aside = new Spot();
     private final int[] found = new int[SIZE + 1];
-    /** Which numbers of LETTERS (bits) each FLYER can bring over, and how many each one gets. */
+    /** The numbers of LETTERS (bits) that each FLYER can bring over; one row for all calls of post(). */
     private final int[] loads = new int[FLYERS];
     private int latest;
     private int told;
@@ -447,8 +447,10 @@ public final class WaxWings {
         int best = 0;
         // COLUMN 0 has the highest bit: so falling numbers are rising rows
         for (int set = (1 << air.columns) - 1; set > 0; set--) {
-            if (Integer.bitCount(set) != n || farthestFrom(set) >= nearest) continue;
-            nearest = farthestFrom(set);
+            if (Integer.bitCount(set) != n) continue;
+            int far = farthestFrom(set);
+            if (far >= nearest) continue;
+            nearest = far;
             best = set;
         }
         row.make(n, 0);

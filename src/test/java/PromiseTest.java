@@ -147,6 +147,8 @@ public final class PromiseTest {
     dueRow(x, 0, 2, 3, 4, 3, 4);
     due("copy to another", x.copy(0, 3, 1, 1, 2), 1);
     dueRow(x, 1, 0, 3, 4);
+    due("copy of a whole row", x.copy(1, 0, 0, 2, 3), 1);
+    dueRow(x, 0, 2, 3, 0, 3, 4);
     due("copy of none at the end", x.copy(0, 5, 1, 3, 0), 1);
     due("BAD", x.copy(6, 0, 0, 0, -1), BAD);
     due("BAD", x.copy(0, 0, -1, 0, 1), BAD);
@@ -169,12 +171,21 @@ public final class PromiseTest {
     row(x, 2, HIGHEST, HIGHEST, HIGHEST);
     due("mean(2)", x.mean(2), 1);
     due("asked()", x.asked(), HIGHEST);
+    row(x, 2, 1);
+    due("mean(2)", x.mean(2), 1);
+    due("asked()", x.asked(), 1);
+    row(x, 2, -1, 2, 0);
+    due("mean(2)", x.mean(2), 1);
+    due("asked()", x.asked(), 0);
+    row(x, 2, LOWEST, LOWEST);
+    due("mean(2)", x.mean(2), 1);
+    due("asked()", x.asked(), LOWEST);
     due("mean(6)", x.mean(6), BAD);
     x.row(3, 0);
     dueFinding(x, 0, x.mean(3), 4);
     due("mean(5)", x.mean(5), FINDING);
     due("finding()", x.finding(), 1);
-    due("asked()", x.asked(), HIGHEST);
+    due("asked()", x.asked(), LOWEST);
 
     promise = 8;
     x = new WaxWings();
@@ -258,10 +269,10 @@ public final class PromiseTest {
     dueFlyer(x, 1, 4, 0, 0, 2, 0, 0, 0, 0);
     x.letters(0, 2);
     x.beat(0, 1);
-    x.keep(1);
+    for (int k = 0; k < 3; k++) x.keep(k);
     due("sky(1): a fault", x.sky(1), STATE);
     due("BEATS", x.count(4), 1);
-    due("kept SKIES", x.count(8), 1);
+    due("kept SKIES", x.count(8), 3);
     due("sky(4)", x.sky(4), BAD);
     dueFinding(x, 1, x.sky(2), 1);
     due("sky(0) anew", x.sky(0), 2);
@@ -448,6 +459,9 @@ public final class PromiseTest {
     due("asked(): just none", x.asked(), 0);
     due("can(2)", x.can(2), 3);
     due("asked()", x.asked(), 2);
+    x.letters(1, 1);
+    due("can(1)", x.can(1), 6);
+    due("asked(): too weak for UP", x.asked(), 4);
     x.beat(0, 0);
     due("can(0): a ROCK", x.can(0), 4);
     due("can(3)", x.can(3), BAD);
@@ -479,11 +493,34 @@ public final class PromiseTest {
     due("SUN", x.count(3), 5);
     due("undo(0)", x.undo(0), 1);
     dueFlyer(x, 0, 0, 0, 1, 9, 0, 0, 0, 0);
+    x.beat(0, 0);
+    x.beat(0, 2);
+    due("undo(1)", x.undo(1), 1);
+    x.keep(1);
+    x.undo(0);
+    x.beat(0, 1);
+    due("on(1)", x.on(1), 1);
+    dueFlyer(x, 0, 0, 1, 0, 9, 1, 1, 0, 0);
+    x.undo(0);
+    x.letters(0, 3);
+    x.beat(0, 0);
+    x.undo(0);
+    dueFlyer(x, 0, 0, 0, 1, 9, 0, 0, 3, 0);
     due("on(2) again", x.on(2), 1);
     due("on(0)", x.on(0), 0);
     due("BEATS", x.count(4), 0);
     due("on(3)", x.on(3), BAD);
+    x = sky(".../...=5f991f991");
     dueFinding(x, 0, x.on(1), 1);
+    // what was noted ahead of each BEAT is kept too
+    x.beat(0, 1);
+    x.keep(0);
+    x.undo(0);
+    x.beat(1, 0);
+    due("on(0)", x.on(0), 1);
+    due("undo(0)", x.undo(0), 1);
+    dueFlyer(x, 0, 0, 0, 1, 9, 0, 0, 0, 0);
+    dueFlyer(x, 1, 0, 0, 1, 9, 0, 0, 0, 0);
   }
 
   private static void ways() {
@@ -499,7 +536,9 @@ public final class PromiseTest {
     due("judge(0, 1): OVER", x.judge(0, 1), 3);
     due("asked()", x.asked(), 0);
     row(x, 1, 0, 1, 2);
+    x.flyer(0, 3);
     due("judge(0, 1): all", x.judge(0, 1), 3);
+    due("asked()", x.asked(), 0);
     x.row(1, 0);
     due("judge(0, 1): none", x.judge(0, 1), 0);
     dueFlyer(x, 0, 0, 0, 1, 9, 0, 0, 0, 0);
@@ -618,6 +657,10 @@ public final class PromiseTest {
     x.beat(2, 1);
     x.beat(2, 1);
     due("wax(2): OVER", x.wax(2), 0);
+    x = sky("##/..=8b051");
+    due("wax(0)", x.wax(0), NONE);
+    x = sky("##/##/##/##/..=9f054");
+    due("wax(0)", x.wax(0), 9);
     due("wax(3)", x.wax(3), BAD);
     due("wax: fell", fallen().wax(0), STATE);
 
@@ -647,6 +690,8 @@ public final class PromiseTest {
     due("most: fell", fallen().most(0), STATE);
     x = sky("../..=0f901");
     due("most: DOWN COSTS nothing", x.most(0), 3);
+    x = sky("##/..=0l911");
+    due("most: with none alone", x.most(0), 0);
 
     promise = 32;
     x = sky(".../...=5f391b391n091f091");
@@ -656,6 +701,8 @@ public final class PromiseTest {
     due("hottest(3)", x.hottest(3), 4);
     x.beat(0, 1);
     due("hottest(0) from there", x.hottest(0), 5);
+    x = sky("##/##/##/##/..=9f094");
+    due("hottest: with none", x.hottest(0), 0);
     x = sky(".#=0f990");
     due("hottest: none", x.hottest(0), NONE);
     due("hottest(-1)", x.hottest(-1), BAD);
@@ -703,6 +750,9 @@ public final class PromiseTest {
     due("post(6, 1): an OVER one takes three", x.post(6, 1), 2);
     dueRow(x, 1, 3, 0, 3, 0);
     due("letters as they were", x.flyer(0, 6) + x.asked(), 1);
+    x = sky("../..=0f991f991f991f991");
+    due("post(12, 1)", x.post(12, 1), 4);
+    dueRow(x, 1, 3, 3, 3, 3);
     due("no FLYERS", sky("..=0").post(0, 0), STATE);
     due("no FLYERS", new WaxWings().post(13, 0), BAD);
   }
@@ -748,12 +798,28 @@ public final class PromiseTest {
     x.beat(0, 1);
     row(x, 0, 2);
     dueChance(x, "OVER", x.plan(0, 0, 5), 1, 1);
+    // five GUSTS of 1 of 12, each one deadly: 11 of 12 to the 5th
+    x = sky("......./......./.......=3f091");
+    row(x, 0, 1, 1, 1, 1, 1, 1);
+    dueChance(x, "cool at both heights", x.plan(0, 0, 0), 1, 1);
+    x = sky("......./...s.../.......=3f092");
+    row(x, 0, 1, 1, 1, 1, 1, 1);
+    dueChance(x, "too hot", x.plan(0, 0, 0), 0, 1);
+    x = sky("......#/......./.......=0n991");
+    row(x, 0, 1, 1, 1, 1, 1, 1);
+    dueChance(x, "a ROCK for those sunk", x.plan(0, 0, 1), 161051, 248832);
 
     promise = 36;
     x = sky("..#/.../...=0f912");
     dueChance(x, "odds(0, 3)", x.odds(0, 3), 3, 4);
     dueChance(x, "odds(0, 0)", x.odds(0, 0), 1, 1);
     dueChance(x, "odds(0, 12)", x.odds(0, 12), 0, 1);
+    dueChance(x, "odds(0, 5)", x.odds(0, 5), 7, 12);
+    x = sky("####/.#../...#=0f991");
+    dueChance(x, "UP first, DOWN last", x.odds(0, 1), 1, 1);
+    x = sky("##./#.#/#../...=0f903");
+    dueChance(x, "only sunk one is over", x.odds(0, 2), 1, 6);
+    x = sky("..#/.../...=0f912");
     dueChance(x, "odds(0, 5)", x.odds(0, 5), 7, 12);
     due("odds(0, 13)", x.odds(0, 13), BAD);
     due("odds(0, -1)", x.odds(0, -1), BAD);
@@ -769,6 +835,9 @@ public final class PromiseTest {
     due("choice(0, 4)", x.choice(0, 4), 1);
     x = sky("##./##./...=0f992");
     due("choice(0, 4)", x.choice(0, 4), 1);
+    due("choice(0, 0)", x.choice(0, 0), 1);
+    x = sky(".#/..=0f990");
+    due("choice(0, 4)", x.choice(0, 4), 2);
     x = sky("../..=0f991");
     x.beat(0, 1);
     due("OVER", x.choice(0, 4), NONE);
@@ -815,10 +884,19 @@ public final class PromiseTest {
     due("asked() stays", x.asked(), 9);
     row(x, 1, 1, 2, 1, 1);
     due("it ends where a BEAT can't be", x.drip(0, 1), NONE);
+    x = sky("...../.....=0f900f791");
+    x.sun(0);
+    row(x, 1, 2, 1, 1, 1);
+    due("it ends where one falls", x.drip(0, 1), NONE);
+    x.sun(5);
+    row(x, 1, 1);
+    x.beat(1, 1);
+    due("drip(1, 1): one BEAT", x.drip(1, 1), 2);
+    due("asked()", x.asked(), 4);
     x.row(1, 0);
     due("no BEATS", x.drip(0, 1), NONE);
     row(x, 1, 1, 5);
-    dueFinding(x, 0, x.drip(0, 1), 3);
+    dueFinding(x, x.findings(3), x.drip(0, 1), 3);
     dueFinding(x, 0, x.drip(0, 4), 1);
     due("drip(2, 0)", x.drip(2, 0), BAD);
     due("drip(0, 6)", x.drip(0, 6), BAD);
@@ -834,6 +912,9 @@ public final class PromiseTest {
     dueChance(x, "feathers(0, 6)", x.feathers(0, 6), 0, 1);
     due("asked()", x.asked(), 0);
     dueChance(x, "feathers(0, 5): one's own", x.feathers(0, 5), 0, 1);
+    x = sky(".../...=5f391");
+    dueChance(x, "feathers(0, 6)", x.feathers(0, 6), 1, 1);
+    due("asked()", x.asked(), 1);
     due("feathers(0, 8)", x.feathers(0, 8), BAD);
     due("feathers(0, -1)", x.feathers(0, -1), BAD);
     due("feathers(1, 0)", x.feathers(1, 0), BAD);
