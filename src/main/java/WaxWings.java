@@ -492,7 +492,8 @@ public final class WaxWings {
         for (int n = 0; n < WAYS && walker.findNext(); n++) {
             if (walker.dripColumns() != set) continue;
             many++;
-            ends |= 1 << walker.end().height;
+            // an empty WAY comes to no COLUMN: the HEIGHT of one who is OVER already is not told
+            ends |= walker.heightsIn(air.columns - 1);
         }
         tell(many, 1);
         told = ends;

@@ -498,7 +498,7 @@ final class Model {
       for (At a : t) if (a.heat > o.wax / 2) drips |= 1 << a.column;
       if (drips != set) continue;
       many++;
-      ends |= 1 << (t.isEmpty() ? o.at : t.get(t.size() - 1)).height;
+      for (At a : t) if (isOver(a)) ends |= 1 << a.height;
     }
     upper = BigInteger.valueOf(many);
     lower = BigInteger.ONE;

@@ -918,6 +918,30 @@ public final class PromiseTest {
     due("feathers(0, 8)", x.feathers(0, 8), BAD);
     due("feathers(0, -1)", x.feathers(0, -1), BAD);
     due("feathers(1, 0)", x.feathers(1, 0), BAD);
+    // OVER already: the empty WAY comes to no COLUMN, and no feathers are found by it, however hot one is
+    x = sky("../../..=4f491n992");
+    due("beat(0, 2)", x.beat(0, 2), 0);
+    dueChance(x, "feathers(0, 0): OVER", x.feathers(0, 0), 1, 1);
+    due("asked(): OVER", x.asked(), 0);
+    x.flyer(0, 2);
+    dueChance(x, "feathers(0, 2): OVER", x.feathers(0, 2), 0, 1);
+    due("asked(): OVER, no WAY", x.asked(), 0);
+    x.sun(9);
+    dueChance(x, "feathers(0, 0): OVER", x.feathers(0, 0), 1, 1);
+    due("asked(): OVER", x.asked(), 0);
+    dueChance(x, "feathers(1, 0): another one", x.feathers(1, 0), 2, 1);
+    due("asked(): another one", x.asked(), 6);
+    x.sun(4);
+    x.undo(0);
+    dueChance(x, "feathers(0, 0): undone", x.feathers(0, 0), 3, 1);
+    due("asked(): undone", x.asked(), 7);
+    x = sky("../..=5f391");
+    due("beat(0, 1)", x.beat(0, 1), 0);
+    dueFlyer(x, 0, 0, 1, 1, 8, 2);
+    dueChance(x, "feathers(0, 0): OVER, hot", x.feathers(0, 0), 1, 1);
+    due("asked(): OVER, hot", x.asked(), 0);
+    dueChance(x, "feathers(0, 2): OVER, hot", x.feathers(0, 2), 0, 1);
+    due("feathers(0, 4): OVER", x.feathers(0, 4), BAD);
     due("feathers: fell", fallen().feathers(0, 0), STATE);
     due("feathers: fell, no COLUMN", fallen().feathers(0, 8), BAD);
 
