@@ -422,8 +422,25 @@ public final class BeatBoundsTest extends Due {
       dueFlyer(x, 3, 5, 0, 0, 6, 0, 0, 1, 0);
       due(x, "undo(1)", 1);
       dueFlyer(x, 1, 4, 0, 1, 9, 0, 0, 0, 0);
+      due(x, "undo(0)", 1);
+      dueFlyer(x, 0, 0, 0, 1, 9, 0, 0, 2, 0);
+      dueFlyer(x, 3, 5, 0, 0, 6, 0, 0, 1, 0);
       due(x, "count(8)", 2);
       due(x, "on(2)", 5);
+    });
+    test(22, "what each BEAT of a kept SKY was, with others done since", () -> {
+      WaxWings x = rich();
+      run(x, "undo(0)", "beat(3, 1)", "beat(3, 1)", "beat(2, 1)", "beat(0, 0)", "beat(1, 1)", "beat(1, 1)");
+      due(x, "on(2)", 5);
+      int[][] columns = {{0, 0, 0, 0}, {1, 0, 0, 0}, {1, 1, 0, 0}, {1, 3, 0, 0}, {1, 4, 0, 0}};
+      int[][] heights = {{1, 1, 0, 0}, {1, 1, 0, 0}, {1, 2, 0, 0}, {1, 1, 0, 0}, {1, 1, 0, 0}};
+      for (int n = 4; n >= 0; n--) {
+        due(x, "undo(" + n + ")", 1);
+        for (int i = 0; i < 4; i++) {
+          due(x, "flyer(" + i + ", 1)", 1, columns[n][i]);
+          due(x, "flyer(" + i + ", 2)", 1, heights[n][i]);
+        }
+      }
     });
     test(22, "ROWS, TEXTS, what was told stay as they are now", () -> {
       WaxWings x = rich();

@@ -79,7 +79,8 @@ public final class ChanceBoundsTest extends Due {
     test(35, "BAD", () -> bad(Due::rich, "plan(-1, 2, 5)", "plan(4, 2, 5)", "plan(MIN, 2, 5)", "plan(MAX, 2, 5)", "plan(0, -1, 5)",
         "plan(0, 6, 5)", "plan(0, MIN, 5)", "plan(0, MAX, 5)", "plan(0, 2, -1)", "plan(0, 2, 13)", "plan(0, 2, MIN)", "plan(0, 2, MAX)"));
     test(35, "BAD ahead of STATE", () -> bad(Due::rich, "plan(2, 6, 5)", "plan(2, 2, 13)", "plan(2, 1, -1)"));
-    test(35, "STATE: one FELL; ahead of NOTHING, SIZE, UNLIKE", () -> state(Due::rich, "plan(2, 2, 5)", "plan(2, 1, 5)", "plan(2, 5, 5)", "plan(2, 3, 5)"));
+    test(35, "STATE: one FELL; ahead of NOTHING, SIZE, UNLIKE", () -> state(Due::rich, "plan(2, 2, 5)",
+        "plan(2, 1, 5)", "plan(2, 5, 5)", "plan(2, 3, 5)"));
     test(35, "NOTHING", () -> found(NOTHING, Due::rich, "plan(0, 1, 5)", "plan(1, 1, 0)", "plan(3, 1, 12)"));
     test(35, "SIZE ahead of UNLIKE", () -> found(SIZE, () -> run(rich(), "lay(5, 8, 3)", "lay(4, 1, 4321)", "lay(4, 1, 0)"), "plan(0, 5, 5)"));
     test(35, "UNLIKE: no BEAT, also behind where it ends", () -> {
@@ -205,6 +206,14 @@ public final class ChanceBoundsTest extends Due {
     test(39, "till it ends as by judge(): a BEAT can't be", () -> {
       none(() -> withRow(sky("...../.....=5f791"), 2, 1, 2, 1, 1), "drip(0, 2)");
       none(() -> withRow(sky("...../.....=5f791"), 2, 2, 1, 1, 1), "drip(0, 2)");
+    });
+    test(39, "NONE, however hot one is where one stays", () -> {
+      WaxWings x = withRow(run(sky(".../...=6f491"), "beat(0, 1)"), 2, 2, 1);
+      due(x, "flyer(0, 4)", 1, 3);
+      due(x, "drip(0, 2)", NONE, 3);
+      x = withRow(run(sky("../..=6f491"), "beat(0, 1)"), 2, 1);
+      due(x, "flyer(0, 4)", 1, 3);
+      due(x, "drip(0, 2)", NONE, 3);
     });
     test(39, "till it ends as by judge(): one FALLS", () -> {
       none(() -> withRow(sky("...../.....=5f911"), 2, 1, 1, 1, 1), "drip(0, 2)");

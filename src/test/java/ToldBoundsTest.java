@@ -234,6 +234,10 @@ public final class ToldBoundsTest extends Due {
       add(all, -1, -1, -1);
       due(bare(), "digest()", digestOf(all));
     });
+    test(48, "-1: missing, a ROW that was torn too", () -> {
+      due("digest() behind tear(2)", run(fresh(), "row(2, 3)", "tear(2)").digest(), fresh().digest());
+      due("digest() behind sky(0)", run(bare(), "keep(0)", "keep(2)", "sky(0)").digest(), bare().digest());
+    });
     test(48, "full ROWS and TEXTS of numbers at their ends; it wraps around", () -> {
       WaxWings x = fresh();
       List<Long> all = new ArrayList<>();
