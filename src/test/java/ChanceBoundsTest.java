@@ -202,6 +202,9 @@ public final class ChanceBoundsTest extends Due {
     test(39, "NONE: none; asked() stays", () -> {
       none(() -> withRow(run(rich(), "sun(0)"), 0, 1), "drip(0, 0)", "drip(0, 2)");
       none(Due::rich, "drip(0, 0)", "drip(1, 0)");
+      // whatever BEAT came then it would drip
+      none(() -> withRow(sky("..../....=6f791"), 2, 1), "drip(0, 2)");
+      none(() -> withRow(sky("..../....=9f991"), 2), "drip(0, 2)");
     });
     test(39, "till it ends as by judge(): a BEAT can't be", () -> {
       none(() -> withRow(sky("...../.....=5f791"), 2, 1, 2, 1, 1), "drip(0, 2)");

@@ -43,10 +43,13 @@ public final class WayBoundsTest extends Due {
     test(23, "as many as there are: none", () -> {
       due(withRow(sky(".../...=0f991"), 2, 1, 1), "judge(0, 2)", 2, 0);
       due(withRow(sky(".../...=0f991"), 2, 1), "judge(0, 2)", 1, 0);
+      // whatever BEAT came then one would FALL
+      due(withRow(sky(".../...=9f991"), 2, 1), "judge(0, 2)", 1, 0);
     });
     test(23, "an empty ROW", () -> {
       due(rich(), "judge(0, 0)", 0, 0);
       due(rich(), "judge(1, 0)", 0, 0);
+      due(withRow(sky("../..=9f001"), 2), "judge(0, 2)", 0, 0);
     });
     test(23, "a full ROW", () -> {
       WaxWings x = sky("......./.......=0n091");
