@@ -62,6 +62,28 @@ public final class FaceTest {
         made.length == 1 && made[0].getParameterCount() == 0 && Modifier.isPublic(made[0].getModifiers()));
   }
 
+  /** The face as the document gives it: in its block of Java, and once more above each promise. */
+  private static void faceOfDocument(Path document) throws Exception {
+    // the list above stands for it where the document is not at hand
+    if (!Files.exists(document)) return;
+    String doc = Files.readString(document);
+    Set<String> face = new TreeSet<>(), promised = new TreeSet<>();
+    Matcher m = Pattern.compile("    public (int|long) ([a-z]+)\\((.*?)\\);").matcher(doc);
+    while (m.find()) face.add(m.group(1) + " " + m.group(2) + "(" + typesOf(m.group(3)) + ")");
+    due("the document's face: " + face, face.equals(new TreeSet<>(Arrays.asList(FACE))));
+    m = Pattern.compile("## Promise ([0-9]+): ([a-z]+)\n\n`(int|long) \\2\\((.*?)\\)`:").matcher(doc);
+    while (m.find()) promised.add(m.group(3) + " " + m.group(2) + "(" + typesOf(m.group(4)) + ")");
+    due("the promised calls: " + promised, promised.equals(face));
+    m = Pattern.compile("public static final int ([^;]*);").matcher(doc);
+    due("the document's constants", m.find());
+    Set<String> constants = new TreeSet<>(Arrays.asList(m.group(1).replace(" ", "").split(",")));
+    due("the document's constants: " + constants, constants.equals(new TreeSet<>(Arrays.asList(CONSTANTS))));
+  }
+
+  private static String typesOf(String parameters) {
+    return parameters.replaceAll(" [a-z]+(, |$)", ",").replaceAll(",$", "");
+  }
+
   private static void shapes() {
     Set<String> publicNames = new TreeSet<>();
     for (String f : FACE) publicNames.add(f.substring(f.indexOf(' ') + 1, f.indexOf('(')));
@@ -115,6 +137,7 @@ public final class FaceTest {
 
   public static void main(String[] args) throws Exception {
     face();
+    faceOfDocument(Path.of("../shared/DOC.md"));
     shapes();
     source(args.length > 0 ? args[0] : "src/main/java/WaxWings.java");
     System.out.println(wrong == 0 ? "the face and the source are as they should be" : wrong + " things are not as they should be");

@@ -394,6 +394,21 @@ public final class SkyBoundsTest extends Due {
       due(x, "mark(0, 5)", 3);
       due(sky("..=0a990"), "mark(0, 5)", 0);
     });
+    test(13, "an ABREAST one: others in its COLUMN who FELL, are OVER, are at another HEIGHT too", () -> {
+      WaxWings x = sky(".../.../...=9a991f090n092");
+      x.beat(0, 0);
+      due(x, "mark(0, 5)", 0);
+      due(x, "beat(1, 1)", 2);
+      due(x, "mark(0, 5)", 1);
+      due(x, "beat(2, 1)", 0);
+      due(x, "mark(0, 5)", 2);
+      due(x, "beat(2, 1)", 0);
+      due(x, "mark(0, 5)", 1);
+      x.sun(0);
+      due(x, "beat(0, 1)", 0);
+      due(x, "over()", 5, 2);
+      due(x, "mark(0, 5)", 1);
+    });
     test(13, "also of one who FELL, is OVER", () -> {
       WaxWings x = rich();
       due(x, "mark(1, 1)", 3);
